@@ -42,7 +42,7 @@ public final class RingGames {
         if (now.game.size >= MOST_PLACES) {
             return FULL;
         }
-        history.record(now);
+        history.remember(now);
         return now.append(owner, colour);
     }
 
@@ -56,7 +56,7 @@ public final class RingGames {
         if (now.game.owners[place] == owner) {
             return NONE;
         }
-        history.record(now);
+        history.remember(now);
         now.game.owners[place] = owner;
         return wonBy(0);
     }
@@ -72,7 +72,7 @@ public final class RingGames {
         if (previous == colour) {
             return NONE;
         }
-        history.record(now);
+        history.remember(now);
         now.game.colours[place] = colour;
         return previous;
     }
@@ -87,7 +87,7 @@ public final class RingGames {
         if (now.game.leads(from, to)) {
             return NONE;
         }
-        history.record(now);
+        history.remember(now);
         now.game.arrows[from] |= bit(to);
         return Integer.bitCount(now.game.arrows[from]);
     }
@@ -99,7 +99,7 @@ public final class RingGames {
         if (!now.game.leads(from, to)) {
             return NONE;
         }
-        history.record(now);
+        history.remember(now);
         now.game.arrows[from] &= ~bit(to);
         if (now.choices[from] == to) {
             now.choices[from] = NOWHERE;
@@ -120,7 +120,7 @@ public final class RingGames {
             return FULL;
         }
         int coming = trial.arrowCount() - now.game.arrowCount();
-        history.record(now);
+        history.remember(now);
         now.game.become(trial);
         return coming;
     }
@@ -129,7 +129,7 @@ public final class RingGames {
         if (now.game.hasColour(MOST_COLOUR)) {
             return NOT_POSSIBLE;
         }
-        history.record(now);
+        history.remember(now);
         now.game.exchange();
         return wonBy(1);
     }
@@ -150,7 +150,7 @@ public final class RingGames {
         if (previous == to) {
             return NONE;
         }
-        history.record(now);
+        history.remember(now);
         now.choices[place] = to;
         return previous;
     }
@@ -159,7 +159,7 @@ public final class RingGames {
         if (!isPlayer(player)) {
             return UNKNOWN;
         }
-        history.record(now);
+        history.remember(now);
         solveFor(player);
         int chosen = 0;
         for (int place = 0; place < now.game.size; place++) {
@@ -175,7 +175,7 @@ public final class RingGames {
         if (!now.game.has(place)) {
             return UNKNOWN;
         }
-        history.record(now);
+        history.remember(now);
         now.tokenAt = place;
         now.tokenSteps = 0;
         return winnerOf(place);
@@ -192,7 +192,7 @@ public final class RingGames {
         if (walk.wayFrom(now.tokenAt) == NOWHERE) {
             return NOT_POSSIBLE;
         }
-        history.record(now);
+        history.remember(now);
         for (int i = 0; i < steps && walk.wayFrom(now.tokenAt) != NOWHERE; i++) {
             now.tokenAt = walk.wayFrom(now.tokenAt);
             now.tokenSteps++;
@@ -228,7 +228,7 @@ public final class RingGames {
         if (!hasSnapshot) {
             return NONE;
         }
-        history.record(now);
+        history.remember(now);
         now.become(snapshot);
         return now.game.size;
     }
@@ -790,7 +790,7 @@ public final class RingGames {
             }
         }
 
-        void record(State state) {
+        void remember(State state) {
             if (count == MOST_STATES) {
                 dropOldest();
             }
@@ -891,6 +891,7 @@ public final class RingGames {
     private static final class Measures {
         private static final int ODD_COLOURS = 4;
         private static final int BITS = 4;
+        private static final int HIGHEST = (1 << BITS) - 1;
         private static final int MOST_ROUNDS = 1000000;
         // The four numbers stand in one int, that for the colour 1 highest, so that comparing two
         // ints compares the measures, and this one is greater than all.
@@ -941,32 +942,27 @@ public final class RingGames {
             return asked;
         }
 
+        // One method, not two: calls go at most eight deep, and this one stands at the end of many.
         private int wanted(Game game, int place, int to) {
             if (found[to] == LOST) {
                 return LOST;
             }
             int colour = game.colours[place];
-            int kept = (colour + 1) / 2;
-            int cut = BITS * (ODD_COLOURS - kept);
-            int measure = found[to] >> cut << cut;
-            return colour % 2 == 0 ? measure : greater(measure, kept - 1);
-        }
-
-        /** The least greater measure whose numbers behind the last one (0 to 3) stay 0. */
-        private int greater(int measure, int last) {
-            int kept = measure;
+            int last = (colour + 1) / 2 - 1;
+            int shift = BITS * (ODD_COLOURS - 1 - last);
+            int measure = found[to] >> shift << shift;
+            if (colour % 2 == 0) {
+                return measure;
+            }
             for (int i = last; i >= 0; i--) {
-                int number = kept >> shift(i) & 15;
+                int number = measure >> shift & HIGHEST;
                 if (number < most[i]) {
-                    return kept + (1 << shift(i));
+                    return measure + (1 << shift);
                 }
-                kept -= number << shift(i);
+                measure -= number << shift;
+                shift += BITS;
             }
             return LOST;
-        }
-
-        private static int shift(int i) {
-            return BITS * (ODD_COLOURS - 1 - i);
         }
 
         boolean isLost(int place) {
@@ -978,7 +974,7 @@ public final class RingGames {
         }
 
         int number(int place, int colour) {
-            return found[place] >> shift(colour / 2) & 15;
+            return found[place] >> BITS * (ODD_COLOURS - 1 - colour / 2) & HIGHEST;
         }
 
         /** The winning choice of a place, NOWHERE unless the player 0 owns and wins it. */

@@ -110,6 +110,10 @@ public final class FaceTests {
                 due("'" + word + "' in: " + line.trim(), found, false);
             }
             due("a lambda or method reference in: " + line, code.matches(".*(->|::).*"), false);
+            // All that is made is made in constructors, so that no call fills the room.
+            due("an object made by a call in: " + line, code.matches(".*\\bnew\\b.*")
+                    && !code.matches("\\s+(private )?final .* = new [^;]*;")
+                    && !code.trim().equals("states[i] = new State();"), false);
             for (char sign : line.toCharArray()) {
                 due("a sign outside 1 to 127 in: " + line, sign >= 1 && sign <= 127, true);
             }
