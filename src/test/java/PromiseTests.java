@@ -9,10 +9,8 @@ public final class PromiseTests {
         Integer.MIN_VALUE, Integer.MIN_VALUE + 1, -33, -32, -6, -1, 14, 15, 31, 32, 33, 64, 1 << 30,
         Integer.MAX_VALUE,
     };
-    // The player 1 wins all of it, by the ring of the places 0 and 1.
-    private static final String[] RING = {"01 12 00", "0>1;1>0,2;2>0"};
-    // The number for the colour 3 of the place 0 becomes too great once, which raises that for 1.
-    private static final String[] CARRY = {"03 01 00", "0>0,1;1>2;2>2"};
+    private static final String[] RING = Made.RING;
+    private static final String[] CARRY = Made.CARRY;
 
     private static int wrong = 0;
     private static int promise = 0;
@@ -68,29 +66,12 @@ public final class PromiseTests {
         }
     }
 
-    /** A game of places, each with its owner and its colour, and of arrows as in a text. */
     private static RingGames game(String... parts) {
-        RingGames x = new RingGames();
-        for (String place : parts[0].split(" ")) {
-            x.addPlace(place.charAt(0) - '0', place.charAt(1) - '0');
-        }
-        if (parts.length > 1) {
-            for (String group : parts[1].split(";")) {
-                String[] sides = group.split(">");
-                for (String to : sides[1].split(",")) {
-                    x.addArrow(Integer.parseInt(sides[0]), Integer.parseInt(to));
-                }
-            }
-        }
-        return x;
+        return Made.game(parts);
     }
 
     private static int read(RingGames x, String text) {
-        x.clearText();
-        for (char sign : text.toCharArray()) {
-            x.type(sign);
-        }
-        return x.readArrows();
+        return Made.read(x, text);
     }
 
     private static void newObject() {
@@ -312,20 +293,9 @@ public final class PromiseTests {
         due("60 characters", read(game("00"), full.substring(0, 58) + "10"), UNKNOWN);
     }
 
-    private static RingGames fullGame() {
-        RingGames x = new RingGames();
-        for (int p = 0; p < 14; p++) {
-            x.addPlace(p % 2, p % 7);
-        }
-        for (int i = 0; i < 60; i++) {
-            x.addArrow(i / 14, i % 14);
-        }
-        return x;
-    }
-
     private static void fullArrows() {
         promise = 5;
-        RingGames x = fullGame();
+        RingGames x = Made.sixty();
         due("arrows", x.count(1), 60);
         due("one more", x.addArrow(5, 0), FULL);
         due("full comes before there already", x.addArrow(0, 0), FULL);
@@ -775,7 +745,7 @@ public final class PromiseTests {
             due("player " + value, x.forced(value, 1), UNKNOWN);
             due("set " + value, x.forced(0, value), BAD_VALUE);
         }
-        RingGames full = fullGame();
+        RingGames full = Made.sixty();
         due("all of 14", full.forced(0, (1 << 14) - 1), (1 << 14) - 1);
         due("one more than 14", full.forced(0, 1 << 14), BAD_VALUE);
     }
@@ -1040,18 +1010,12 @@ public final class PromiseTests {
         promise = 19;
         long seed = 11;
         for (int run = 0; run < 60; run++) {
-            RingGames x = new RingGames();
-            for (int p = 0; p < 4; p++) {
-                seed = next(seed);
-                x.addPlace((int) (seed >>> 40) & 1, (int) (seed >>> 50) & 3);
-            }
-            for (int i = 0; i < 9; i++) {
-                seed = next(seed);
-                x.addArrow((int) (seed >>> 33) & 3, (int) (seed >>> 45) & 3);
-            }
+            seed = next(seed);
             for (int player = 0; player < 2; player++) {
                 int fine = 0;
                 for (int row = 0; row < 256; row++) {
+                    // An object is used for at most 512 calls, so each row has its own.
+                    RingGames x = fourPlaces(seed);
                     for (int p = 0; p < 4; p++) {
                         x.choose(p, row >> 2 * p & 3);
                     }
@@ -1059,9 +1023,23 @@ public final class PromiseTests {
                         fine |= x.judged(player, p) << p;
                     }
                 }
-                due("wins " + player, x.wins(player), fine);
+                due("wins " + player, fourPlaces(seed).wins(player), fine);
             }
         }
+    }
+
+    private static RingGames fourPlaces(long first) {
+        RingGames x = new RingGames();
+        long seed = first;
+        for (int p = 0; p < 4; p++) {
+            seed = next(seed);
+            x.addPlace((int) (seed >>> 40) & 1, (int) (seed >>> 50) & 3);
+        }
+        for (int i = 0; i < 9; i++) {
+            seed = next(seed);
+            x.addArrow((int) (seed >>> 33) & 3, (int) (seed >>> 45) & 3);
+        }
+        return x;
     }
 
     private static long next(long seed) {
