@@ -585,11 +585,12 @@ public final class RingGames {
         }
 
         boolean hasColour(int colour) {
-            boolean any = false;
             for (int place = 0; place < size; place++) {
-                any |= colours[place] == colour;
+                if (colours[place] == colour) {
+                    return true;
+                }
             }
-            return any;
+            return false;
         }
 
         int leastColour() {
@@ -645,15 +646,15 @@ public final class RingGames {
         }
 
         boolean isTrap(int player, int set) {
-            boolean holds = true;
             for (int place = 0; place < size; place++) {
-                if (contains(set, place)) {
-                    holds &= owners[place] == player
-                            ? (arrows[place] & ~set) == 0
-                            : (arrows[place] & set) != 0;
+                boolean leaves = (arrows[place] & ~set) != 0;
+                boolean stays = (arrows[place] & set) != 0;
+                boolean breaks = owners[place] == player ? leaves : !stays;
+                if (contains(set, place) && breaks) {
+                    return false;
                 }
             }
-            return holds;
+            return true;
         }
 
         /** The places to which ways of at least one arrow lead from a set, within other places. */

@@ -490,6 +490,7 @@ final class QuestionEdges {
         Doc.due("itself", Made.game("01", "0>0").badRings(0, 2), 1);
         Doc.due("14", Made.game(repeated("01"), ROUND).badRings(0, 2), 14);
         Doc.due("of two", Made.game("01 02 03 04", "0>1;1>0;2>2").badRings(0, 2), 1);
+        Doc.due("of two, the first", Made.game("01 01 01", "0>0;1>2;2>1").badRings(0, 2), 1);
         Doc.due("two of one length",
                 Made.game("01 02 02 02", "0>1,2;1>3;2>3;3>0").badRings(0, 2), 3);
         Doc.due("not the shortest good one",
